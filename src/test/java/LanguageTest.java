@@ -1,0 +1,102 @@
+import java.io.IOException;
+import java.lang.reflect.Constructor;
+import java.lang.reflect.Field;
+import java.lang.reflect.Method;
+import java.lang.reflect.Modifier;
+import java.nio.file.Files;
+import java.nio.file.Path;
+import java.util.ArrayList;
+import java.util.Collections;
+import java.util.List;
+import java.util.regex.Matcher;
+import java.util.regex.Pattern;
+
+/** The face of the class, and what can be seen of the rules of LANGUAGE.md in its text. */
+public final class LanguageTest {
+    private static final Path SOURCE = Path.of("src/main/java/StandAssigner.java");
+    private static final Path DOCUMENT = Path.of("../shared/DOC.md");
+    private static final String[] FORBIDDEN = {"->", "::", "\\bfinally\\b", "\\bcatch\\b", "\\btry\\b",
+        "\\bsynchronized\\b", "\\bassert\\b", "\\bpackage\\b", "\\bhashCode\\b", "\\btoString\\b", "Exact\\b",
+        "\\bprotected\\b", "\\bString\\.format\\b", "\\bSystem\\.(?!arraycopy)", "\\bMath\\.(?!max|min|abs)"};
+    private static final Due due = new Due("LanguageTest");
+
+    public static void main(String[] args) throws IOException {
+        faceIsThatOfTheDocument();
+        nothingElseIsVisible();
+        textKeepsToTheRules();
+        due.end();
+    }
+
+    private static void faceIsThatOfTheDocument() throws IOException {
+        List<String> want = new ArrayList<>();
+        Matcher line = Pattern.compile("^    public (\\w+) (\\w+)\\((.*?)\\).*;$", Pattern.MULTILINE)
+            .matcher(Files.readString(DOCUMENT));
+        while (line.find()) {
+            want.add(line.group(1) + " " + line.group(2) + "(" + typesOf(line.group(3)) + ")");
+        }
+        List<String> got = new ArrayList<>();
+        for (Method method : StandAssigner.class.getDeclaredMethods()) {
+            if (Modifier.isPublic(method.getModifiers())) {
+                List<String> types = new ArrayList<>();
+                for (Class<?> type : method.getParameterTypes()) {
+                    types.add(type.getSimpleName());
+                }
+                got.add(method.getReturnType().getSimpleName() + " " + method.getName()
+                    + "(" + String.join(", ", types) + ")");
+            }
+        }
+        Collections.sort(want);
+        Collections.sort(got);
+        due.same("methods", want.toString(), got.toString());
+        due.is("number of methods", 37, want::size);
+    }
+
+    private static String typesOf(String parameters) {
+        return parameters.isEmpty() ? "" : parameters.replaceAll("(\\w+) \\w+", "$1");
+    }
+
+    private static void nothingElseIsVisible() {
+        Class<?> face = StandAssigner.class;
+        due.is("public", 1, () -> Modifier.isPublic(face.getModifiers()) ? 1 : 0);
+        due.is("final", 1, () -> Modifier.isFinal(face.getModifiers()) ? 1 : 0);
+        Constructor<?>[] constructors = face.getDeclaredConstructors();
+        due.is("constructors", 1, () -> constructors.length);
+        due.is("its parameters", 0, () -> constructors[0].getParameterCount());
+        List<String> names = new ArrayList<>();
+        for (Method method : face.getDeclaredMethods()) {
+            if (Modifier.isPublic(method.getModifiers())) {
+                names.add(method.getName());
+            }
+        }
+        for (Method method : face.getDeclaredMethods()) {
+            if (!Modifier.isPublic(method.getModifiers()) && !method.isSynthetic()) {
+                due.is(method.getName() + " is private", 1, () -> Modifier.isPrivate(method.getModifiers()) ? 1 : 0);
+                due.is(method.getName() + " is no name of the face", 0, () -> names.contains(method.getName()) ? 1 : 0);
+            }
+        }
+        for (Field field : face.getDeclaredFields()) {
+            due.is(field.getName() + " is private", 1, () -> Modifier.isPrivate(field.getModifiers()) ? 1 : 0);
+        }
+        for (Class<?> inside : face.getDeclaredClasses()) {
+            due.is(inside.getName() + " is static", 1, () -> Modifier.isStatic(inside.getModifiers()) ? 1 : 0);
+            for (Method method : inside.getDeclaredMethods()) {
+                due.is(inside.getName() + "." + method.getName() + " is no name of the face", 0,
+                    () -> names.contains(method.getName()) ? 1 : 0);
+            }
+        }
+    }
+
+    private static void textKeepsToTheRules() throws IOException {
+        String source = Files.readString(SOURCE);
+        String code = source.replaceAll("(?s)/\\*.*?\\*/", "").replaceAll("//[^\n]*", "")
+            .replaceAll("\"[^\"]*\"", "\"\"");
+        for (String forbidden : FORBIDDEN) {
+            due.is("uses of " + forbidden, 0, () -> Pattern.compile(forbidden).matcher(code).results().count());
+        }
+        due.is("signs beyond 127", 0, () -> source.chars().filter(sign -> sign > 127).count());
+        due.is("imports beside Arrays and NoSuchElementException", 0, () -> Pattern
+            .compile("(?m)^import (?!java\\.util\\.(Arrays|NoSuchElementException);)").matcher(code).results().count());
+        due.is("static fields that are not final", 0, () -> Pattern
+            .compile("(?m)^\\s*(private |public )?static (?!final)[^(]*;").matcher(code).results().count());
+    }
+}
