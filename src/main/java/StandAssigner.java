@@ -199,9 +199,9 @@ public final class StandAssigner {
         int number = 2 * turn + stay;
         switch (what) {
             case 0:
-                return airport.begin(number);
+                return airport.begins[number];
             case 1:
-                return airport.end(number);
+                return airport.ends[number];
             case 2:
                 return airport.standOf[number];
             case 3:
@@ -420,8 +420,8 @@ public final class StandAssigner {
         Arrays.fill(comings, 0);
         for (int number = 0; number < MOST_STAYS; number++) {
             if (airport.isOnStand(number)) {
-                comings[airport.begin(number)]++;
-                comings[airport.end(number)]--;
+                comings[airport.begins[number]]++;
+                comings[airport.ends[number]]--;
             }
         }
         int there = 0;
@@ -439,7 +439,7 @@ public final class StandAssigner {
         // The number rises only where a stay begins, so no other minute can be the first.
         for (int number = 0; number < MOST_STAYS; number++) {
             if (airport.isOnStand(number)) {
-                int minute = airport.begin(number);
+                int minute = airport.begins[number];
                 int there = airport.thereAt(minute);
                 if (there > greatest || there == greatest && minute < first) {
                     greatest = there;
@@ -479,9 +479,15 @@ public final class StandAssigner {
         }
         // The entries are done to a copy, so that a failing one leaves nothing of those before it.
         trial.copyFrom(airport);
-        int entries = doEntries();
+        text.goToStart();
+        int entries = 0;
+        boolean isDone = true;
+        while (isDone && entries < MOST_CHARACTERS && text.position < text.length) {
+            isDone = text.readEntry() && doEntry();
+            entries++;
+        }
         text.makeEmpty();
-        if (entries < 0) {
+        if (!isDone) {
             throw new IllegalStateException("an entry cannot be done");
         }
         history.remember(airport);
@@ -519,19 +525,7 @@ public final class StandAssigner {
         return airport.turns;
     }
 
-    /** Returns the number of entries done to the trial, or -1 if one of them cannot be done. */
-    private int doEntries() {
-        int entries = 0;
-        text.goToStart();
-        for (int count = 0; count < MOST_CHARACTERS && text.position < text.length; count++) {
-            if (!text.readEntry() || !doEntry()) {
-                return NONE;
-            }
-            entries++;
-        }
-        return entries;
-    }
-
+    /** Does the entry that was read last to the trial; false if it cannot be done. */
     private boolean doEntry() {
         int turn = text.numbers[0];
         int second = text.numbers[1];
@@ -605,6 +599,9 @@ public final class StandAssigner {
         final int[] departures;
         final int[] weights;
         final int[] tows;
+        // By the number of the stay; one that does not exist is on no stand and has no length.
+        final int[] begins;
+        final int[] ends;
         final int[] standOf;
 
         Airport() {
@@ -617,7 +614,10 @@ public final class StandAssigner {
             departures = new int[MOST_TURNS];
             weights = new int[MOST_TURNS];
             tows = new int[MOST_TURNS];
+            begins = new int[MOST_STAYS];
+            ends = new int[MOST_STAYS];
             standOf = new int[MOST_STAYS];
+            Arrays.fill(standOf, NONE);
         }
 
         void makeEmpty() {
@@ -626,6 +626,7 @@ public final class StandAssigner {
             buffer = FIRST_BUFFER;
             movedByRepairs = 0;
             openStands = 0;
+            Arrays.fill(standOf, NONE);
         }
 
         void copyFrom(Airport other) {
@@ -642,6 +643,8 @@ public final class StandAssigner {
             System.arraycopy(other.departures, 0, departures, 0, MOST_TURNS);
             System.arraycopy(other.weights, 0, weights, 0, MOST_TURNS);
             System.arraycopy(other.tows, 0, tows, 0, MOST_TURNS);
+            System.arraycopy(other.begins, 0, begins, 0, MOST_STAYS);
+            System.arraycopy(other.ends, 0, ends, 0, MOST_STAYS);
             System.arraycopy(other.standOf, 0, standOf, 0, MOST_STAYS);
         }
 
@@ -662,7 +665,7 @@ public final class StandAssigner {
         }
 
         boolean isOnStand(int number) {
-            return hasStay(number >> 1, number & 1) && standOf[number] >= 0;
+            return standOf[number] >= 0;
         }
 
         int newStand(int kind, int size) {
@@ -704,10 +707,18 @@ public final class StandAssigner {
             departures[turn] = departure;
             weights[turn] = weight;
             tows[turn] = NONE;
-            standOf[2 * turn] = NONE;
-            standOf[2 * turn + 1] = NONE;
+            setStays(turn);
             turns = turn + 1;
             return turn;
+        }
+
+        private void setStays(int turn) {
+            int first = 2 * turn;
+            int departure = departures[turn];
+            begins[first] = arrivals[turn];
+            ends[first] = hasTow(turn) ? tows[turn] : departure;
+            begins[first + 1] = hasTow(turn) ? tows[turn] + TOW_LENGTH : departure;
+            ends[first + 1] = departure;
         }
 
         boolean isTowMinute(int turn, int minute) {
@@ -717,8 +728,8 @@ public final class StandAssigner {
         /** Returns the length of stay 1. */
         int divide(int turn, int minute) {
             tows[turn] = minute;
-            standOf[2 * turn + 1] = NONE;
-            return departures[turn] - minute - TOW_LENGTH;
+            setStays(turn);
+            return ends[2 * turn + 1] - begins[2 * turn + 1];
         }
 
         /** Returns where stay 1 was. */
@@ -726,6 +737,7 @@ public final class StandAssigner {
             int was = standOf[2 * turn + 1];
             tows[turn] = NONE;
             standOf[2 * turn + 1] = NONE;
+            setStays(turn);
             return was;
         }
 
@@ -746,29 +758,18 @@ public final class StandAssigner {
                 tows[turn] = towAfter(turn, minutes);
             }
             arrivals[turn] += minutes;
+            setStays(turn);
             return departures[turn] - was;
         }
 
-        int begin(int number) {
-            int turn = number >> 1;
-            return (number & 1) == 0 ? arrivals[turn] : tows[turn] + TOW_LENGTH;
-        }
-
-        int end(int number) {
-            int turn = number >> 1;
-            return (number & 1) == 0 && hasTow(turn) ? tows[turn] : departures[turn];
-        }
-
         boolean isThere(int number, int minute) {
-            return begin(number) <= minute && minute < end(number);
+            return begins[number] <= minute && minute < ends[number];
         }
 
         int allStays() {
             int set = 0;
-            for (int number = 0; number < MOST_STAYS; number++) {
-                if (hasStay(number >> 1, number & 1)) {
-                    set |= 1 << number;
-                }
+            for (int turn = 0; turn < turns; turn++) {
+                set |= (hasTow(turn) ? 3 : 1) << 2 * turn;
             }
             return set;
         }
@@ -786,7 +787,7 @@ public final class StandAssigner {
         int staysOn(int stand) {
             int set = 0;
             for (int number = 0; number < MOST_STAYS; number++) {
-                if (isOnStand(number) && standOf[number] == stand) {
+                if (standOf[number] == stand) {
                     set |= 1 << number;
                 }
             }
@@ -806,7 +807,7 @@ public final class StandAssigner {
         int troubledOn(int stand) {
             int set = 0;
             for (int number = 0; number < MOST_STAYS; number++) {
-                if (isOnStand(number) && standOf[number] == stand && isTroubled(number)) {
+                if (standOf[number] == stand && isTroubled(number)) {
                     set |= 1 << number;
                 }
             }
@@ -827,7 +828,7 @@ public final class StandAssigner {
             int sum = 0;
             for (int number = 0; number < MOST_STAYS; number++) {
                 if ((set >> number & 1) != 0) {
-                    sum += end(number) - begin(number);
+                    sum += ends[number] - begins[number];
                 }
             }
             return sum;
@@ -836,7 +837,7 @@ public final class StandAssigner {
         /** Returns the lowest stay on a stand at a minute, or -1. */
         int stayAt(int stand, int minute) {
             for (int number = 0; number < MOST_STAYS; number++) {
-                if (isOnStand(number) && standOf[number] == stand && isThere(number, minute)) {
+                if (standOf[number] == stand && isThere(number, minute)) {
                     return number;
                 }
             }
@@ -849,8 +850,8 @@ public final class StandAssigner {
             }
             int next = LAST_MINUTE;
             for (int number = 0; number < MOST_STAYS; number++) {
-                if (isOnStand(number) && standOf[number] == stand && begin(number) > minute) {
-                    next = Math.min(next, begin(number));
+                if (standOf[number] == stand && begins[number] > minute) {
+                    next = Math.min(next, begins[number]);
                 }
             }
             return next - minute;
@@ -894,18 +895,19 @@ public final class StandAssigner {
         /** Whether two stays would be in conflict on these stands. */
         boolean wouldClash(int number, int stand, int other, int otherStand) {
             if (stand == otherStand) {
-                return begin(other) < end(number) + buffer && begin(number) < end(other) + buffer;
+                return begins[other] < ends[number] + buffer && begins[number] < ends[other] + buffer;
             }
             int limit = limits[stand * MOST_STANDS + otherStand];
             return limit >= 0 && sizes[number >> 1] + sizes[other >> 1] > limit
-                && begin(other) < end(number) && begin(number) < end(other);
+                && begins[other] < ends[number] && begins[number] < ends[other];
         }
 
         /** Returns the stays with which a stay would be in conflict on a stand. */
         int clashesOn(int number, int stand) {
             int set = 0;
             for (int other = 0; other < MOST_STAYS; other++) {
-                if (other != number && isOnStand(other) && wouldClash(number, stand, other, standOf[other])) {
+                int otherStand = standOf[other];
+                if (other != number && otherStand >= 0 && wouldClash(number, stand, other, otherStand)) {
                     set |= 1 << other;
                 }
             }
@@ -946,11 +948,10 @@ public final class StandAssigner {
 
         /** Returns the cheapest stand on which a stay could be placed, or -1. */
         int cheapestFor(int number) {
-            int set = standsFor(number);
             int best = NONE;
             for (int stand = 0; stand < stands; stand++) {
                 // A higher kind is always dearer, whatever the weight.
-                if ((set >> stand & 1) != 0 && (best < 0 || kinds[stand] < kinds[best])) {
+                if ((best < 0 || kinds[stand] < kinds[best]) && refusal(number, stand) == 0) {
                     best = stand;
                 }
             }
@@ -998,8 +999,8 @@ public final class StandAssigner {
         }
 
         boolean comesBefore(int number, int other) {
-            if (begin(number) != begin(other)) {
-                return begin(number) < begin(other);
+            if (begins[number] != begins[other]) {
+                return begins[number] < begins[other];
             }
             if (weights[number >> 1] != weights[other >> 1]) {
                 return weights[number >> 1] > weights[other >> 1];
@@ -1398,6 +1399,9 @@ public final class StandAssigner {
             }
             for (int index = 0; index < size; index++) {
                 free[index] = clashes.freeFor(chosen[index], set);
+                if (free[index] == 0) {
+                    return;
+                }
             }
             int rows = 1 << STAND_BITS * size;
             for (int row = 0; row < rows; row++) {
