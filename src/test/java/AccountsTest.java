@@ -77,6 +77,8 @@ public final class AccountsTest {
         due.is("31: two", 2, () -> a.peak(false));
         due.is("31: from 150", 150, () -> a.peak(true));
         a.place(3, 0, 0);
+        due.is("31: still two", 2, () -> a.peak(false));
+        due.is("31: the first such minute", 150, () -> a.peak(true));
         due.is("30: up to the end of the day", 100 + 50 + 150 + 30, a::minutes);
     }
 

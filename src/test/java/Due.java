@@ -55,6 +55,27 @@ final class Due {
         }
     }
 
+    /** A number of all that an airport remembers for a change, but the buffer: only questions are asked. */
+    static long stateOf(StandAssigner airport) {
+        long state = 0;
+        for (int account = 0; account <= 10; account++) {
+            state = 31 * state + airport.account(account);
+        }
+        for (int stand = 0; stand < airport.account(0); stand++) {
+            for (int what = 0; what <= 6; what++) {
+                state = 31 * state + airport.stand(stand, what);
+            }
+        }
+        for (int turn = 0; turn < airport.account(1); turn++) {
+            for (int what = 0; what <= 5; what++) {
+                state = 31 * state + airport.turn(turn, what);
+                state = 31 * state + airport.ofStay(turn, 0, what);
+                state = 31 * state + (airport.turn(turn, 4) < 0 ? 0 : airport.ofStay(turn, 1, what));
+            }
+        }
+        return state;
+    }
+
     static int type(StandAssigner airport, String text) {
         int length = 0;
         for (char character : text.toCharArray()) {

@@ -17,6 +17,7 @@ public final class RepairsTest {
         wrongGains();
         noMoves();
         oneMove();
+        closedBeside();
         aSwap();
         threeMoves();
         fourMoves();
@@ -149,8 +150,7 @@ public final class RepairsTest {
         due.is("36: the stay too", 0, () -> a.ofStay(0, 0, 2));
     }
 
-    /** Two large aircraft fit only on each other's stands. */
-    private static void aSwap() {
+    private static void closedBeside() {
         StandAssigner a = new StandAssigner();
         a.addStand(0, 1);
         a.addStand(0, 3);
@@ -171,6 +171,28 @@ public final class RepairsTest {
         due.is("24: behind the other", 1, a::leastMoves);
         due.is("26: that stay", 4, () -> a.moveOf(0, false));
         due.is("26: that stand", 1, () -> a.moveOf(0, true));
+    }
+
+    /** Only when two change places, the larger one is not beside the other large one. */
+    private static void aSwap() {
+        StandAssigner a = new StandAssigner();
+        int[] sizes = {3, 1, 3};
+        for (int number = 0; number < 3; number++) {
+            a.addStand(0, 3);
+            a.addTurn(sizes[number], 0, 100, 1);
+            a.place(number, 0, number);
+        }
+        a.pair(0, 2, 4);
+        due.is("28: by the pair", 1, a::conflicts);
+        due.is("24: two change places", 2, a::leastMoves);
+        due.is("25: two change places", 2, a::leastAgain);
+        due.is("26: the one", 0, () -> a.moveOf(0, false));
+        due.is("26: onto the stand of the other", 1, () -> a.moveOf(0, true));
+        due.is("26: the other", 2, () -> a.moveOf(1, false));
+        due.is("26: onto the stand of the one", 0, () -> a.moveOf(1, true));
+        a.pair(0, 2, 3);
+        due.refuses("24: not with a lower limit", NOTHING, a::leastMoves);
+        due.refuses("25: not with a lower limit", NOTHING, a::leastAgain);
     }
 
     private static void threeMoves() {

@@ -52,6 +52,10 @@ public final class StandsTest {
         a.addTurn(1, 0, 60, 1);
         a.addTurn(1, 0, 60, 1);
         a.tow(0, 20);
+        a.setOpen(0, true);
+        a.place(0, 0, 0);
+        a.setOpen(0, false);
+        due.is("2: a move", 1, a::repair);
         due.is("2: save", 2, a::save);
         due.refuses("2: a kept reason", UnsupportedOperationException.class, () -> a.place(0, 0, 0));
         due.refuses("2: a kept error position", ARGUMENT, () -> Due.readText(a, "p0x"));
@@ -60,6 +64,7 @@ public final class StandsTest {
         due.is("2: no stands", 0, () -> a.account(0));
         due.is("2: no turns", 0, () -> a.account(1));
         due.is("2: no tows", 0, () -> a.account(5));
+        due.is("2: no moves", 0, () -> a.account(9));
         due.refuses("2: no changes", NOTHING, a::undo);
         due.is("2: the reason stays", 2, a::reason);
         due.is("2: the error position stays", 2, a::errorPosition);
@@ -108,6 +113,9 @@ public final class StandsTest {
         due.is("4: from the other side", 0, () -> a.pair(2, 0, 6));
         due.is("4: set 0", 4, () -> a.stand(0, 3));
         due.is("4: set 2", 1, () -> a.stand(2, 3));
+        a.pair(0, 2, 0);
+        due.is("4: a limit of 0 is a pair", 4, () -> a.stand(0, 3));
+        a.pair(0, 2, 6);
         due.is("4: set 1", 0, () -> a.stand(1, 3));
         due.is("4: ending", 6, () -> a.pair(0, 2, -1));
         due.is("4: ending none", -1, () -> a.pair(0, 2, -1));
@@ -119,6 +127,12 @@ public final class StandsTest {
         due.is("4: sum above the limit", 5, () -> a.whyNot(1, 0, 1));
         due.is("4: limit of the sum", 3, () -> a.pair(1, 0, 4));
         due.is("4: sum at the limit", 0, () -> a.whyNot(1, 0, 1));
+        a.pair(0, 1, 0);
+        due.is("4: limit 0", 5, () -> a.whyNot(1, 0, 1));
+        a.addTurn(2, 200, 230, 1);
+        a.addTurn(2, 70, 100, 1);
+        due.is("4: none is there at its last minute", 0, () -> a.whyNot(2, 0, 1));
+        due.is("4: nor before its first", 0, () -> a.whyNot(3, 0, 1));
     }
 
     private static void opening() {
@@ -223,6 +237,10 @@ public final class StandsTest {
         due.refuses("8: another stand", NOTHING, () -> a.at(1, 100));
         a.delay(1, 110);
         due.is("8: of several the lowest", 0, () -> a.at(0, 220));
+        a.addTurn(1, 0, 60, 1);
+        a.place(3, 0, 1);
+        due.is("8: minute 0", 6, () -> a.at(1, 0));
+        due.is("9: a stay at minute 0", 0, () -> a.gap(1, 0));
     }
 
     private static void gaps() {
@@ -238,6 +256,7 @@ public final class StandsTest {
         due.refuses("9: minute -1", ARGUMENT, () -> a.gap(0, -1));
         due.refuses("9: minute 1441", ARGUMENT, () -> a.gap(0, 1441));
         due.is("9: before", 100, () -> a.gap(0, 0));
+        due.is("9: where stay 0 is", 0, () -> a.gap(0, 200));
         due.is("9: one before", 1, () -> a.gap(0, 99));
         due.is("9: at its beginning", 0, () -> a.gap(0, 100));
         due.is("9: at its last but one", 0, () -> a.gap(0, 149));

@@ -84,10 +84,10 @@ public final class TextsTest {
         String[] texts = {"p2.0@0;", "p0.1@0;", "p0.2@0;", "p0.0@2;", "p0.0@9;", "l0.0;", "l0.1;", "l5.0;",
             "d2+10;", "d0+0;", "d0+301;", "d0+9999;", "t2@150;", "t0@109;", "t0@181;", "t0@9999;",
             "t0@150;t0@150;", "d1+300;d1+300;d1+300;d1+300;d1+300;", "a;l0.0;l0.0;"};
+        long state = Due.stateOf(a);
         for (String text : texts) {
             due.refuses("34: " + text, STATE, () -> Due.readText(a, text));
-            due.is("34: nothing of " + text, 100 + 100 + 60 - 1 - 1 + 0, () -> a.turn(0, 1) + a.turn(1, 1)
-                + a.account(4) + a.account(5) + a.ofStay(0, 0, 2) + a.ofStay(1, 0, 2));
+            due.is("34: nothing of " + text, state, () -> Due.stateOf(a));
         }
         due.refuses("18: none of them kept a reason", NOTHING, a::reason);
         due.refuses("34: a refusal", STATE, () -> Due.readText(a, "p0.0@0;p1.0@0;"));
@@ -98,6 +98,10 @@ public final class TextsTest {
         due.is("35: its position", 5, a::errorPosition);
         due.is("34: with those before it", 2, () -> Due.readText(a, "t0@150;l0.0;"));
         due.is("34: no change was kept by failing ones", 5, a::undo);
+        due.is("34: the longest delay", 1, () -> Due.readText(a, "d1+300;"));
+        due.is("34: up to the last minute", 4, () -> Due.readText(a, "d1+300;d1+300;d1+300;d1+110;"));
+        due.is("34: the departure", 1440, () -> a.turn(1, 2));
+        due.refuses("34: one minute more", STATE, () -> Due.readText(a, "d1+1;"));
     }
 
     private static void errorPositions() {
@@ -138,17 +142,16 @@ public final class TextsTest {
         StandAssigner a = small();
         a.save();
         a.restore();
+        long state = Due.stateOf(a);
         Runnable[] changes = {() -> a.addStand(0, 0), () -> a.pair(0, 1, 0), () -> a.setOpen(0, false),
             () -> a.setBuffer(1), () -> a.addTurn(0, 0, 30, 1), () -> a.place(0, 0, 1), () -> a.tow(0, 150),
             () -> a.delay(1, 1), () -> a.assignAll(), () -> a.repair(), () -> Due.readText(a, "a;")};
         for (int change = 0; change < changes.length; change++) {
             changes[change].run();
             due.is("36: change " + change, 0, a::undo);
-            due.is("36: as before " + change, 60, () -> a.account(4));
+            due.is("36: as before " + change, state, () -> Due.stateOf(a));
             due.is("36: buffer before " + change, 15, () -> a.setBuffer(15));
             a.undo();
-            due.is("36: pairs before " + change, 2 + 0 + 1 + 100, () -> a.account(0) + a.stand(0, 3)
-                + a.stand(0, 2) + a.turn(1, 1));
         }
         a.place(0, 0, 0);
         a.lift(0, 0);
@@ -169,13 +172,14 @@ public final class TextsTest {
         a.setOpen(1, false);
         a.setOpen(0, true);
         a.repair();
+        long state = Due.stateOf(a);
         due.is("37: save", 2, a::save);
         due.is("37: it is no change", 5, a::undo);
         due.is("29: moves go back", 0, () -> a.account(9));
         a.addTurn(1, 0, 60, 1);
         a.addStand(1, 1);
         due.is("38: restore", 2, a::restore);
-        due.is("38: stands", 2, () -> a.account(0));
+        due.is("38: as it was saved", state, () -> Due.stateOf(a));
         due.is("38: moves", 1, () -> a.account(9));
         due.is("38: the stay", 0, () -> a.ofStay(0, 0, 2));
         due.refuses("38: changes are forgotten", NOTHING, a::undo);
@@ -186,5 +190,10 @@ public final class TextsTest {
         due.is("37: again", 3, a::save);
         a.clear();
         due.is("38: the later one", 3, a::restore);
+        a.setBuffer(20);
+        a.save();
+        a.setBuffer(30);
+        a.restore();
+        due.is("38: the buffer", 20, () -> a.setBuffer(15));
     }
 }

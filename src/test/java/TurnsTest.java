@@ -240,6 +240,14 @@ public final class TurnsTest {
         due.is("16: a gate above all", 4, () -> a.addStand(0, 3));
         a.setOpen(0, true);
         due.is("16: it is that", 4, () -> a.cheapest(0, 0));
+        a.place(0, 0, 4);
+        a.addTurn(0, 0, 60, 1);
+        a.addTurn(3, 300, 360, 1);
+        due.is("15: a later turn", 1 + 2 + 8, () -> a.options(1, 0));
+        due.is("16: a later turn", 3, () -> a.cheapest(1, 0));
+        a.tow(2, 320);
+        due.is("15: its stay 1", 1 + 2 + 16, () -> a.options(2, 1));
+        due.is("16: its stay 1", 4, () -> a.cheapest(2, 1));
     }
 
     private static void lifting() {
