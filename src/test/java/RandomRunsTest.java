@@ -119,7 +119,8 @@ public final class RandomRunsTest {
         int other = aStand();
         int minute = aMinute();
         boolean open = random.nextInt(4) > 0;
-        int limit = random.nextInt(isCrowded ? 20 : 3) == 0 ? -1 : random.nextInt(20) == 0 ? some(8) : random.nextInt(isCrowded ? 5 : 7);
+        int limit = random.nextInt(isCrowded ? 20 : 3) == 0 ? -1
+            : random.nextInt(20) == 0 ? some(8) : random.nextInt(isCrowded ? 5 : 7);
         int buffer = random.nextInt(20) == 0 ? some(62) : 5 * random.nextInt(7);
         int minutes = random.nextInt(20) == 0 ? some(302) : 1 + random.nextInt(60);
         switch (which) {
