@@ -63,7 +63,7 @@ public final class StandAssigner {
         return turns;
     }
 
-    public int addStand(int kind, int size) {
+    public int addStand(int kind, int size) throws IllegalArgumentException, IllegalStateException {
         if (kind < GATE || kind > REMOTE || size < 0 || size > LARGEST_SIZE) {
             throw new IllegalArgumentException("kind or size out of range");
         }
@@ -74,7 +74,7 @@ public final class StandAssigner {
         return airport.newStand(kind, size);
     }
 
-    public int pair(int stand, int other, int limit) {
+    public int pair(int stand, int other, int limit) throws IndexOutOfBoundsException, IllegalArgumentException {
         if (!airport.hasStand(stand) || !airport.hasStand(other)) {
             throw new IndexOutOfBoundsException("no such stand");
         }
@@ -85,7 +85,7 @@ public final class StandAssigner {
         return airport.changeLimit(stand, other, limit);
     }
 
-    public boolean setOpen(int stand, boolean isOpen) {
+    public boolean setOpen(int stand, boolean isOpen) throws IndexOutOfBoundsException {
         if (!airport.hasStand(stand)) {
             throw new IndexOutOfBoundsException("no such stand");
         }
@@ -93,7 +93,7 @@ public final class StandAssigner {
         return airport.changeOpen(stand, isOpen);
     }
 
-    public int setBuffer(int buffer) {
+    public int setBuffer(int buffer) throws IllegalArgumentException {
         if (buffer < 0 || buffer > GREATEST_BUFFER) {
             throw new IllegalArgumentException("buffer out of range");
         }
@@ -103,7 +103,7 @@ public final class StandAssigner {
         return was;
     }
 
-    public int stand(int stand, int what) {
+    public int stand(int stand, int what) throws IndexOutOfBoundsException, IllegalArgumentException {
         if (!airport.hasStand(stand)) {
             throw new IndexOutOfBoundsException("no such stand");
         }
@@ -127,7 +127,8 @@ public final class StandAssigner {
         }
     }
 
-    public int at(int stand, int minute) {
+    public int at(int stand, int minute)
+            throws IndexOutOfBoundsException, IllegalArgumentException, NoSuchElementException {
         if (!airport.hasStand(stand)) {
             throw new IndexOutOfBoundsException("no such stand");
         }
@@ -141,7 +142,7 @@ public final class StandAssigner {
         return number;
     }
 
-    public int gap(int stand, int minute) {
+    public int gap(int stand, int minute) throws IndexOutOfBoundsException, IllegalArgumentException {
         if (!airport.hasStand(stand)) {
             throw new IndexOutOfBoundsException("no such stand");
         }
@@ -153,7 +154,8 @@ public final class StandAssigner {
 
     // ---- turns and stays
 
-    public int addTurn(int size, int arrival, int departure, int weight) {
+    public int addTurn(int size, int arrival, int departure, int weight)
+            throws IllegalArgumentException, IllegalStateException {
         if (size < 0 || size > LARGEST_SIZE || weight < 1 || weight > GREATEST_WEIGHT) {
             throw new IllegalArgumentException("size or weight out of range");
         }
@@ -170,7 +172,7 @@ public final class StandAssigner {
         return airport.newTurn(size, arrival, departure, weight);
     }
 
-    public int turn(int turn, int what) {
+    public int turn(int turn, int what) throws IndexOutOfBoundsException, IllegalArgumentException {
         if (!airport.hasTurn(turn)) {
             throw new IndexOutOfBoundsException("no such turn");
         }
@@ -192,7 +194,7 @@ public final class StandAssigner {
         }
     }
 
-    public int ofStay(int turn, int stay, int what) {
+    public int ofStay(int turn, int stay, int what) throws IndexOutOfBoundsException, IllegalArgumentException {
         if (!airport.hasStay(turn, stay)) {
             throw new IndexOutOfBoundsException("no such turn or stay");
         }
@@ -215,7 +217,7 @@ public final class StandAssigner {
         }
     }
 
-    public int place(int turn, int stay, int stand) {
+    public int place(int turn, int stay, int stand) throws IndexOutOfBoundsException, UnsupportedOperationException {
         if (!airport.hasStay(turn, stay) || !airport.hasStand(stand)) {
             throw new IndexOutOfBoundsException("no such turn, stay or stand");
         }
@@ -231,21 +233,21 @@ public final class StandAssigner {
         return was;
     }
 
-    public int whyNot(int turn, int stay, int stand) {
+    public int whyNot(int turn, int stay, int stand) throws IndexOutOfBoundsException {
         if (!airport.hasStay(turn, stay) || !airport.hasStand(stand)) {
             throw new IndexOutOfBoundsException("no such turn, stay or stand");
         }
         return airport.refusal(2 * turn + stay, stand);
     }
 
-    public int options(int turn, int stay) {
+    public int options(int turn, int stay) throws IndexOutOfBoundsException {
         if (!airport.hasStay(turn, stay)) {
             throw new IndexOutOfBoundsException("no such turn or stay");
         }
         return airport.standsFor(2 * turn + stay);
     }
 
-    public int cheapest(int turn, int stay) {
+    public int cheapest(int turn, int stay) throws IndexOutOfBoundsException, NoSuchElementException {
         if (!airport.hasStay(turn, stay)) {
             throw new IndexOutOfBoundsException("no such turn or stay");
         }
@@ -256,7 +258,7 @@ public final class StandAssigner {
         return stand;
     }
 
-    public int lift(int turn, int stay) {
+    public int lift(int turn, int stay) throws IndexOutOfBoundsException, IllegalStateException {
         if (!airport.hasStay(turn, stay)) {
             throw new IndexOutOfBoundsException("no such turn or stay");
         }
@@ -270,14 +272,15 @@ public final class StandAssigner {
         return was;
     }
 
-    public int reason() {
+    public int reason() throws NoSuchElementException {
         if (keptReason == 0) {
             throw new NoSuchElementException("no reason was kept");
         }
         return keptReason;
     }
 
-    public int tow(int turn, int minute) {
+    public int tow(int turn, int minute)
+            throws IndexOutOfBoundsException, IllegalArgumentException, IllegalStateException {
         if (!airport.hasTurn(turn)) {
             throw new IndexOutOfBoundsException("no such turn");
         }
@@ -291,7 +294,7 @@ public final class StandAssigner {
         return airport.divide(turn, minute);
     }
 
-    public int untow(int turn) {
+    public int untow(int turn) throws IndexOutOfBoundsException, IllegalStateException {
         if (!airport.hasTurn(turn)) {
             throw new IndexOutOfBoundsException("no such turn");
         }
@@ -302,7 +305,8 @@ public final class StandAssigner {
         return airport.join(turn);
     }
 
-    public int delay(int turn, int minutes) {
+    public int delay(int turn, int minutes)
+            throws IndexOutOfBoundsException, IllegalArgumentException, IllegalStateException {
         if (!airport.hasTurn(turn)) {
             throw new IndexOutOfBoundsException("no such turn");
         }
@@ -316,14 +320,15 @@ public final class StandAssigner {
         return airport.postpone(turn, minutes);
     }
 
-    // ---- assigning and repairing
+    // ---- assigning and repairs
 
     public int assignAll() {
         history.remember(airport);
         return airport.placeEverything();
     }
 
-    public int towGain(int turn, int minute) {
+    public int towGain(int turn, int minute)
+            throws IndexOutOfBoundsException, IllegalArgumentException, IllegalStateException {
         if (!airport.hasTurn(turn)) {
             throw new IndexOutOfBoundsException("no such turn");
         }
@@ -342,14 +347,14 @@ public final class StandAssigner {
         return without - trial.costOfAll();
     }
 
-    public int leastMoves() {
+    public int leastMoves() throws NoSuchElementException {
         if (!firstRepair.find(airport)) {
             throw new NoSuchElementException("no repair");
         }
         return firstRepair.moves;
     }
 
-    public int leastAgain() {
+    public int leastAgain() throws NoSuchElementException {
         int least = everyRow.least(airport);
         if (least > MOST_MOVES) {
             throw new NoSuchElementException("no repair");
@@ -357,14 +362,14 @@ public final class StandAssigner {
         return least;
     }
 
-    public int moveOf(int move, boolean isStand) {
+    public int moveOf(int move, boolean isStand) throws NoSuchElementException {
         if (!firstRepair.find(airport) || move < 0 || move >= firstRepair.moves) {
             throw new NoSuchElementException("no repair or no such move");
         }
         return isStand ? firstRepair.targets[move] : firstRepair.moved[move];
     }
 
-    public int repair() {
+    public int repair() throws NoSuchElementException {
         if (!firstRepair.find(airport)) {
             throw new NoSuchElementException("no repair");
         }
@@ -387,7 +392,7 @@ public final class StandAssigner {
 
     // ---- accounts
 
-    public int account(int account) {
+    public int account(int account) throws IllegalArgumentException {
         switch (account) {
             case 0:
                 return airport.stands;
@@ -450,7 +455,7 @@ public final class StandAssigner {
         return isMinute ? first : greatest;
     }
 
-    public float meanCost() {
+    public float meanCost() throws ArithmeticException {
         int turns = airport.turns;
         if (turns == 0) {
             throw new ArithmeticException("no turns");
@@ -460,7 +465,7 @@ public final class StandAssigner {
 
     // ---- texts, history and saving
 
-    public int append(char character) {
+    public int append(char character) throws IllegalArgumentException, IllegalStateException {
         if (character < ' ' || character > '~') {
             throw new IllegalArgumentException("character out of range");
         }
@@ -470,7 +475,7 @@ public final class StandAssigner {
         return text.add(character);
     }
 
-    public int read() {
+    public int read() throws IllegalArgumentException, IllegalStateException {
         int wrong = text.wrongPosition();
         if (wrong >= 0) {
             keptPosition = wrong;
@@ -495,14 +500,14 @@ public final class StandAssigner {
         return entries;
     }
 
-    public int errorPosition() {
+    public int errorPosition() throws NoSuchElementException {
         if (keptPosition < 0) {
             throw new NoSuchElementException("no error position was kept");
         }
         return keptPosition;
     }
 
-    public int undo() {
+    public int undo() throws NoSuchElementException {
         if (history.count == 0) {
             throw new NoSuchElementException("no change is remembered");
         }
@@ -516,7 +521,7 @@ public final class StandAssigner {
         return saved.turns;
     }
 
-    public int restore() {
+    public int restore() throws IllegalStateException {
         if (!isSaved) {
             throw new IllegalStateException("nothing was saved");
         }

@@ -6,7 +6,6 @@ import java.lang.reflect.Modifier;
 import java.nio.file.Files;
 import java.nio.file.Path;
 import java.util.ArrayList;
-import java.util.Collections;
 import java.util.List;
 import java.util.regex.Matcher;
 import java.util.regex.Pattern;
@@ -27,32 +26,38 @@ public final class LanguageTest {
         due.end();
     }
 
+    /** Modifiers, return type, name, parameter types and declared exceptions in their order, of every public method. */
     private static void faceIsThatOfTheDocument() throws IOException {
-        List<String> want = new ArrayList<>();
-        Matcher line = Pattern.compile("^    public (\\w+) (\\w+)\\((.*?)\\).*;$", Pattern.MULTILINE)
-            .matcher(Files.readString(DOCUMENT));
-        while (line.find()) {
-            want.add(line.group(1) + " " + line.group(2) + "(" + typesOf(line.group(3)) + ")");
-        }
+        List<String> want = methodsOfTheDocument();
         List<String> got = new ArrayList<>();
         for (Method method : StandAssigner.class.getDeclaredMethods()) {
             if (Modifier.isPublic(method.getModifiers())) {
-                List<String> types = new ArrayList<>();
-                for (Class<?> type : method.getParameterTypes()) {
-                    types.add(type.getSimpleName());
-                }
-                got.add(method.getReturnType().getSimpleName() + " " + method.getName()
-                    + "(" + String.join(", ", types) + ")");
+                got.add(method.toString().replace(" StandAssigner.", " "));
             }
         }
-        Collections.sort(want);
-        Collections.sort(got);
-        due.same("methods", want.toString(), got.toString());
         due.is("number of methods", 37, want::size);
+        due.is("number of public methods", want.size(), got::size);
+        for (String method : want) {
+            due.is("there is " + method, 1, () -> got.contains(method) ? 1 : 0);
+        }
+        for (String method : got) {
+            due.is("the document has " + method, 1, () -> want.contains(method) ? 1 : 0);
+        }
     }
 
-    private static String typesOf(String parameters) {
-        return parameters.isEmpty() ? "" : parameters.replaceAll("(\\w+) \\w+", "$1");
+    /** The methods of the document's face, each written as Method.toString writes it, but without the class. */
+    private static List<String> methodsOfTheDocument() throws IOException {
+        List<String> methods = new ArrayList<>();
+        Matcher line = Pattern.compile("^    (public \\w+ \\w+)\\((.*?)\\)( throws .*)?;$", Pattern.MULTILINE)
+            .matcher(Files.readString(DOCUMENT));
+        while (line.find()) {
+            String types = line.group(2).replaceAll("(\\w+) \\w+", "$1").replace(", ", ",");
+            String exceptions = line.group(3) == null ? "" : line.group(3).replace(", ", ",")
+                .replaceAll("(\\w+Exception)", "java.lang.$1")
+                .replace("java.lang.NoSuchElementException", "java.util.NoSuchElementException");
+            methods.add(line.group(1) + "(" + types + ")" + exceptions);
+        }
+        return methods;
     }
 
     private static void nothingElseIsVisible() {
@@ -62,6 +67,8 @@ public final class LanguageTest {
         Constructor<?>[] constructors = face.getDeclaredConstructors();
         due.is("constructors", 1, () -> constructors.length);
         due.is("its parameters", 0, () -> constructors[0].getParameterCount());
+        due.is("its exceptions", 0, () -> constructors[0].getExceptionTypes().length);
+        due.is("it is public", 1, () -> Modifier.isPublic(constructors[0].getModifiers()) ? 1 : 0);
         List<String> names = new ArrayList<>();
         for (Method method : face.getDeclaredMethods()) {
             if (Modifier.isPublic(method.getModifiers())) {
