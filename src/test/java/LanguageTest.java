@@ -22,6 +22,7 @@ public final class LanguageTest {
     public static void main(String[] args) throws IOException {
         faceIsThatOfTheDocument();
         nothingElseIsVisible();
+        callsAreAheadAsTold();
         textKeepsToTheRules();
         due.end();
     }
@@ -91,6 +92,30 @@ public final class LanguageTest {
                     () -> names.contains(method.getName()) ? 1 : 0);
             }
         }
+    }
+
+    /** The comments that the document puts ahead of its calls, and these calls in its order behind each. */
+    private static void callsAreAheadAsTold() throws IOException {
+        String face = Files.readString(SOURCE).replaceAll("(?s)\n    private static final class .*", "");
+        int told = 0;
+        for (String sentence : Sentences.ofDocument()) {
+            Matcher ahead = Pattern.compile("Ahead of the calls (.*) the interface says: (---- .*)\\.").matcher(sentence);
+            if (!ahead.find()) {
+                continue;
+            }
+            told++;
+            List<String> calls = new ArrayList<>();
+            String[] parts = face.split(Pattern.quote("// " + ahead.group(2) + "\n"));
+            due.is("comments " + ahead.group(2), 2, () -> parts.length);
+            Matcher call = Pattern.compile("(?m)^    public \\w+ (\\w+)\\(")
+                .matcher(parts[parts.length - 1].replaceAll("(?s)\n    // ----.*", ""));
+            while (call.find()) {
+                calls.add("`" + call.group(1) + "`");
+            }
+            due.same("behind " + ahead.group(2), ahead.group(1), String.join(", ", calls));
+        }
+        int comments = told;
+        due.is("comments ahead of calls", 5, () -> comments);
     }
 
     private static void textKeepsToTheRules() throws IOException {
