@@ -20,8 +20,8 @@ final class EdgesOfAccounts {
         e.ofPromise(31, "- `isMinute`: false for the number, true for the first such minute",
             EdgesOfAccounts::firstMinute);
         e.ofPromise(31, "Returns the number, or the minute, 0 if no stay is on a stand.", EdgesOfAccounts::noPeak);
-        e.ofPromise(32, "Returns the mean cost of a turn: the cost of all divided by the number of turns, both converted"
-            + " to float.", EdgesOfAccounts::means);
+        e.ofPromise(32, "Returns the mean cost of a turn: the cost of all divided by the number of turns, both"
+            + " converted to float.", EdgesOfAccounts::means);
         e.ofPromise(32, "Throws `ArithmeticException` if there are no turns", EdgesOfAccounts::noMean);
     }
 

@@ -132,7 +132,7 @@ final class EdgesOfRepairs {
         }
     }
 
-    /** Some stays of size 1 at one time, each on a closed stand, and some open stands, of which the last two are a pair. */
+    /** Stays of size 1 at one time, each on a closed stand, and open stands, of which the last two can be a pair. */
     private static StandAssigner forStands(int stays, int open, int limit) {
         StandAssigner a = Airports.of(stays + open, 0);
         for (int stay = 0; stay < stays; stay++) {

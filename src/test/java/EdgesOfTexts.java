@@ -17,9 +17,9 @@ final class EdgesOfTexts {
     private static void texts(Edges e) {
         e.ofTerms("The input is a buffer of at most 60 characters.", EdgesOfTexts::sixtyCharacters);
         e.ofTerms("A text consists of one or several entries, each followed by a semicolon: p, a turn, a point, a stay,"
-            + " an at sign and a stand, which places the stay; l, a turn, a point and a stay, which lifts it; d, a turn,"
-            + " a plus sign and minutes, which delays the turn; t, a turn, an at sign and a minute, which tows it; or a,"
-            + " which assigns all.", EdgesOfTexts::entries);
+            + " an at sign and a stand, which places the stay; l, a turn, a point and a stay, which lifts it; d, a"
+            + " turn, a plus sign and minutes, which delays the turn; t, a turn, an at sign and a minute, which tows"
+            + " it; or a, which assigns all.", EdgesOfTexts::entries);
         e.ofTerms("Turns, stays and stands are digits; minutes are numbers of one to four digits, where zeros at the"
             + " front are allowed.", EdgesOfTexts::digits);
         e.ofTerms("The error position of a text that is not like this is the smallest index k such that no text of this"

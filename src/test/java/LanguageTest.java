@@ -99,7 +99,8 @@ public final class LanguageTest {
         String face = Files.readString(SOURCE).replaceAll("(?s)\n    private static final class .*", "");
         int told = 0;
         for (String sentence : Sentences.ofDocument()) {
-            Matcher ahead = Pattern.compile("Ahead of the calls (.*) the interface says: (---- .*)\\.").matcher(sentence);
+            Matcher ahead = Pattern.compile("Ahead of the calls (.*) the interface says: (---- .*)\\.")
+                .matcher(sentence);
             if (!ahead.find()) {
                 continue;
             }
